@@ -107,6 +107,8 @@ public final class DaysTest {
         // Grass by 12 beside the sun, and by 20 from the second; nothing below 0.
         CHECK.state(stepped(of(30, 30, 30, 60, 0, 0), 0, 20, 0, 0), 0, 5, 27, 27);
         CHECK.state(stepped(of(24, 24, 24, 23, 0, 0), 0, 20, 0, 0), 0, 3, 23, 22);
+        CHECK.state(stepped(of(24, 24, 24, 39, 0, 0), 0, 0, 0, 0), 0, 21, 23, 22);
+        CHECK.state(stepped(of(24, 24, 24, 40, 0, 0), 0, 0, 0, 0), 0, 21, 22, 22);
         CHECK.state(stepped(of(10, 2, 0, 60, 0, 0), 0, 20, 0, 0), 0, 0, 0, 1);
     }
 
@@ -127,6 +129,8 @@ public final class DaysTest {
         CHECK.due("not rolled at 71", hardBehind(71, 71, 50, 0), 49);
         CHECK.due("rolled with the second at 70", hardBehind(50, 70, 50, 2), 57);
         CHECK.due("rolled with the second at 71", hardBehind(50, 71, 50, 2), 50);
+        CHECK.due("rolled at 60, the second at 71", hardBehind(60, 71, 50, 2), 50);
+        CHECK.due("rolled at 61, the second at 71", hardBehind(61, 71, 50, 2), 44);
         CHECK.due("rolled at 99", hardBehind(50, 50, 99, 2), 100);
         CHECK.due("rolled at 100", hardBehind(50, 50, 100, 2), 100);
         CHECK.due("rolled wet at 4", hardBehind(90, 90, 4, 2), 0);
@@ -160,6 +164,7 @@ public final class DaysTest {
         CHECK.state(stepped(of(0, 50, 100, 10, 50, 10), 0, 0, 16, 0), 0, 0, 50, 90, 12, 50, 7);
         CHECK.state(stepped(of(0, 50, 100, 10, 50, 2), 0, 0, 16, 0), 0, 0, 50, 90, 12, 50, 0);
         CHECK.state(stepped(of(0, 50, 100, 10, 50, 10), 0, 0, 16, 1), 0, 0, 50, 90, 12, 50, 10);
+        CHECK.state(stepped(of(0, 50, 100, 10, 50, 10), 0, 0, 15, 0), 0, 8, 50, 90, 6, 50, 10);
         CHECK.state(stepped(of(0, 50, 100, 10, 50, 10), 0, 0, 0, 199), 0, 0, 50, 90, 12, 50, 14);
         CHECK.state(stepped(of(0, 50, 100, 10, 50, 10), 0, 0, 0, 200), 0, 0, 50, 90, 12, 49, 15);
         CHECK.state(stepped(of(0, 50, 100, 10, 2, 90), 0, 0, 0, 1000), 0, 0, 50, 90, 10, 0, 100);
@@ -183,12 +188,13 @@ public final class DaysTest {
 
     private static void eachStripByItself() {
         PitchSquare x = Check.withStrips(3);
-        x.work(1, 2);
+        x.weather(0, 8, 3, true);
+        x.work(1, 3);
         x.play(2, 200);
         x.step();
-        CHECK.state(x, 0, 39, 40, 36, 14, 30, 0);
-        CHECK.state(x, 1, 39, 40, 36, 14, 39, 0);
-        CHECK.state(x, 2, 39, 40, 36, 14, 29, 5);
+        CHECK.state(x, 0, 42, 42, 36, 14, 30, 0);
+        CHECK.state(x, 1, 38, 40, 36, 14, 39, 0);
+        CHECK.state(x, 2, 42, 42, 36, 14, 29, 5);
     }
 
     private static void lastDay() {

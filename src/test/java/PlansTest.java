@@ -7,6 +7,8 @@ public final class PlansTest {
         lastDays();
         fewestThenFirst();
         limits();
+        oneCover();
+        sunForetold();
         changesNothing();
         latestPlanStays();
         CHECK.end();
@@ -79,6 +81,30 @@ public final class PlansTest {
         plannedAre(x, 0, 0);
         CHECK.due("plan(0, 1, 0, 6)", x.plan(0, 1, 0, 6), 32);
         plannedAre(x, 0);
+    }
+
+    /** One cover for three wet days: the last of them gains most by it. */
+    private static void oneCover() {
+        PitchSquare x = Check.withStrips(1);
+        x.set(0, 40, 40, 40, 0, 50, 0);
+        for (int day = 0; day < 3; day++) {
+            x.weather(day, 100, 0, false);
+        }
+        // Bounce is 29 if day 0 is covered, 28 with day 1, 32 with day 2.
+        CHECK.due("plan(0, 3, 1, 0)", x.plan(0, 3, 1, 0), 32);
+        plannedAre(x, 0, 0, 1);
+    }
+
+    /** The sun of each day is its own. */
+    private static void sunForetold() {
+        PitchSquare x = Check.withStrips(1);
+        x.step();
+        x.set(0, 90, 60, 100, 0, 60, 0);
+        x.weather(1, 0, 20, false);
+        x.weather(2, 0, 10, false);
+        // 90 is 83 behind the seep and 63 dry, then 53: rolled on the second day alone.
+        CHECK.due("plan(0, 2, 0, 2)", x.plan(0, 2, 0, 2), 65);
+        plannedAre(x, 0, 2);
     }
 
     /** Works and balls told for today have no part in it, and stay told. */
