@@ -1,5 +1,3 @@
-import java.nio.charset.StandardCharsets;
-
 /** Promises 15 to 19: feed, rules, fault, rate, when. */
 public final class RulesTest {
     private static final Check CHECK = new Check();
@@ -21,23 +19,9 @@ public final class RulesTest {
         CHECK.end();
     }
 
-    /** Feeds a text, padded by blanks to twenties, and has its first bytes read. */
-    static int read(PitchSquare x, String text) {
-        byte[] bytes = text.getBytes(StandardCharsets.ISO_8859_1);
-        int[] words = new int[(bytes.length + 19) / 20 * 5];
-        for (int i = 0; i < words.length * 4; i++) {
-            int b = i < bytes.length ? bytes[i] & 255 : 32;
-            words[i / 4] |= b << (24 - i % 4 * 8);
-        }
-        for (int i = 0; i < words.length; i += 5) {
-            x.feed(words[i], words[i + 1], words[i + 2], words[i + 3], words[i + 4]);
-        }
-        return x.rules(bytes.length);
-    }
-
     private static void good(String text, int want) {
         PitchSquare x = new PitchSquare();
-        CHECK.due("rules of [" + text + "]", read(x, text), want);
+        CHECK.due("rules of [" + text + "]", Texts.read(x, text), want);
         CHECK.due("status()", x.status(), 0);
         CHECK.due("fault(0) of [" + text + "]", x.fault(0), 0);
         CHECK.due("fault(1) of [" + text + "]", x.fault(1), PitchSquare.NONE);
@@ -45,7 +29,7 @@ public final class RulesTest {
 
     private static void bad(String text, int kind, int place) {
         PitchSquare x = new PitchSquare();
-        CHECK.refused(x, "rules of [" + text + "]", read(x, text), 8);
+        CHECK.refused(x, "rules of [" + text + "]", Texts.read(x, text), 8);
         CHECK.due("fault(0) of [" + text + "]", x.fault(0), kind);
         CHECK.due("fault(1) of [" + text + "]", x.fault(1), place);
     }
@@ -173,8 +157,8 @@ public final class RulesTest {
         good("ab when rain=0;a when rain=0;b when rain=0;", 3);
         // Names of an earlier text are free again.
         PitchSquare x = new PitchSquare();
-        CHECK.due("first text", read(x, "a when rain=0;"), 1);
-        CHECK.due("second text", read(x, "a when rain=1;b when rain=0;"), 2);
+        CHECK.due("first text", Texts.read(x, "a when rain=0;"), 1);
+        CHECK.due("second text", Texts.read(x, "a when rain=1;b when rain=0;"), 2);
     }
 
     private static void leastKindFirst() {
@@ -189,9 +173,9 @@ public final class RulesTest {
 
     private static void faultStays() {
         PitchSquare x = Check.withStrips(1);
-        read(x, "a when hard=30;");
+        Texts.read(x, "a when hard=30;");
         CHECK.due("rate(0)", x.rate(0), 0);
-        read(x, "b when hard=30 and");
+        Texts.read(x, "b when hard=30 and");
         CHECK.due("fault(0)", x.fault(0), 2);
         x.rules(-1);
         x.rules(1);
@@ -215,16 +199,16 @@ public final class RulesTest {
         x.set(1, 21, 22, 23, 24, 45, 26);
         for (int i = 0; i < whats.length; i++) {
             int value = x.told(1, i);
-            read(x, "a when " + whats[i] + "<" + value + ";b when " + whats[i] + ">" + value
+            Texts.read(x, "a when " + whats[i] + "<" + value + ";b when " + whats[i] + ">" + value
                     + ";c when " + whats[i] + "=" + value + ";");
             CHECK.due("rate by " + whats[i], x.rate(1), 2);
-            read(x, "a when " + whats[i] + "<" + (value + 1) + ";");
+            Texts.read(x, "a when " + whats[i] + "<" + (value + 1) + ";");
             CHECK.due("rate by less " + whats[i], x.rate(1), 0);
-            read(x, "a when " + whats[i] + ">" + (value - 1) + ";");
+            Texts.read(x, "a when " + whats[i] + ">" + (value - 1) + ";");
             CHECK.due("rate by more " + whats[i], x.rate(1), 0);
         }
         // Rain is that foretold for today, not that which came.
-        read(x, "dry when rain<1;wet when rain=30 and hard=45;");
+        Texts.read(x, "dry when rain<1;wet when rain=30 and hard=45;");
         CHECK.due("rate(1)", x.rate(1), 0);
         x.weather(0, 30, 0, true);
         CHECK.due("rate(1)", x.rate(1), 0);
@@ -238,7 +222,7 @@ public final class RulesTest {
     private static void whenRefused() {
         PitchSquare x = Check.withStrips(1);
         CHECK.refused(x, "when without rules", x.when(0, 0, 1), 2);
-        read(x, "a when hard=31;b when rain=0;");
+        Texts.read(x, "a when hard=31;b when rain=0;");
         CHECK.refused(x, "when(1, ..)", x.when(1, 9, 0), 1);
         CHECK.refused(x, "when(-1, ..)", x.when(-1, 0, 1), 1);
         CHECK.refused(x, "when rule -1", x.when(0, -1, 1), 2);
@@ -264,7 +248,7 @@ public final class RulesTest {
         x.weather(1, 90, 0, true);
         x.weather(3, 5, 0, false);
         // Grass is 0, 2, 4 .. from day 1 on.
-        read(x, "low when grass<4;wet when rain=5;rest when grass<100;");
+        Texts.read(x, "low when grass<4;wet when rain=5;rest when grass<100;");
         CHECK.due("when low", x.when(0, 0, 60), 1);
         CHECK.due("when wet", x.when(0, 1, 3), 3);
         CHECK.due("when rest: wet is ahead of it on day 3", x.when(0, 2, 60), 4);
@@ -279,7 +263,7 @@ public final class RulesTest {
         for (int day = 2; day < 6; day++) {
             x.weather(day, 0, 10, false);
         }
-        read(x, "a when first<11;");
+        Texts.read(x, "a when first<11;");
         CHECK.due("when dry", x.when(0, 0, 10), 4);
     }
 }
