@@ -124,7 +124,7 @@ public final class DayEdgesTest {
     }
 
     private static void cameOnItsDayAlone() {
-        EDGE.of(P9, "Today is stepped by WEATHER as it CAME");
+        EDGE.of(P9, "by WEATHER as it CAME");
         PitchSquare x = Edge.led(DayEdgesTest::bare);
         x.weather(1, 11, 4, true);
         EDGE.due("told(0, 0) the day ahead", firstBehindStep(x), 40);
@@ -135,7 +135,7 @@ public final class DayEdgesTest {
     }
 
     private static void works() {
-        EDGE.of(P7, "WORKS of a STRIP today, as a sum: 1, 2, 4, 8, 16");
+        EDGE.of(P7, "as a sum: 1 COVERED, 2 ROLLED, 4 MOWN, 8 WATERED, 16 SEEDED");
         EDGE.ends(Leads::square, "work(0, #)",
                 (x, works) -> Edge.number(x.work(0, works)), Edge.NO, 0, 31);
     }
@@ -194,7 +194,7 @@ public final class DayEdgesTest {
     }
 
     private static void besideThoseAhead() {
-        EDGE.of(P8, "beside those told ahead, 1,000 in all at most (2: more than that)");
+        EDGE.of(P8, "beside those told ahead, 1,000 in all at most");
         // 400 are told in this square.
         EDGE.ends(Leads::square, "play(0, #) behind 400", DayEdgesTest::play, Edge.NO, 0, 600);
         Edge.Lead thousand = Leads.both(Leads::square, x -> x.play(0, 600));
@@ -251,7 +251,7 @@ public final class DayEdgesTest {
     }
 
     private static void newDay() {
-        EDGE.of(P9, "Today is stepped for all STRIPS: the new DAY");
+        EDGE.of(P9, "by WEATHER as it CAME: the new DAY");
         PitchSquare x = new PitchSquare();
         for (int day = 1; day <= 250; day++) {
             EDGE.due("step() without strips", x.step(), day);
@@ -304,9 +304,18 @@ public final class DayEdgesTest {
         Edge.Lead almost = Leads.both(Leads::square, x -> Check.goTo(x, 998));
         EDGE.due("step() on day 998", Edge.led(almost).step(), 999);
         EDGE.taken(almost, "step() on day 998", PitchSquare::step, Edge.NONE);
-        Edge.Lead last = Leads.both(almost, PitchSquare::step);
+        // A state that a step would change, and balls that a step would forget.
+        Edge.Lead last = Leads.both(almost, x -> {
+            x.step();
+            x.set(0, 55, 40, 40, 10, 50, 0);
+            x.play(0, 400);
+        });
         EDGE.refused(last, "step() on day 999", PitchSquare::step, Edge.NONE, 6);
-        EDGE.refused(Leads.both(last, x -> x.work(0, 2)), "step() on day 999 with works told",
-                PitchSquare::step, Edge.NONE, 6);
+        PitchSquare x = Edge.led(last);
+        x.step();
+        EDGE.due("day()", x.day(), 999);
+        EDGE.state("step() on day 999", x, 0, 55, 40, 40, 10, 50, 0);
+        EDGE.due("play(0, 601)", play(x, 601), 0);
+        EDGE.due("play(0, 600)", play(x, 600), 1);
     }
 }

@@ -26,10 +26,17 @@ final class Edge {
     private int asked = 0;
     private int sentences = 0;
 
+    /** The sentence is in the document's own words. */
     void of(String promise, String sentence) {
         endSentence();
         name = promise + " [" + sentence + "] ";
         sentences++;
+    }
+
+    /** One side of a sentence that has several. */
+    void of(String promise, String sentence, String side) {
+        of(promise, sentence);
+        name = promise + " [" + sentence + "] " + side + ": ";
     }
 
     void due(String call, long got, long want) {

@@ -71,6 +71,9 @@ final class Leads {
         x.fair(0);
     }
 
+    /** So many calls are made by {@link #full}. */
+    static final int CALLS_OF_FULL = 365;
+
     /** As many as can be of strips, matches, measures, marks, and bytes on the tape. */
     static void full(PitchSquare x) {
         addStrips(x, 8);
@@ -81,6 +84,16 @@ final class Leads {
         for (int i = 0; i < 100; i++) {
             x.mark(i % 5, i % 3, i % 11);
         }
+        for (int strip = 0; strip < 8; strip++) {
+            x.set(strip, 30 + strip, 50, 60 - strip, 10 + strip, 40 + 5 * strip, 3 * strip);
+            x.work(strip, 3 * strip + 2);
+            x.play(strip, 40 * strip);
+        }
+        x.weather(0, 25, 7, true);
+        x.weather(0, 15, 3, false);
+        x.worth(7, 5, 60);
+        x.plan(7, 4, 2, 2);
+        x.fair(3);
         Texts.feed(x, Texts.EIGHT_RULES + " ".repeat(288));
     }
 }

@@ -160,7 +160,7 @@ public final class MarkEdgesTest {
     }
 
     private static void fairOfNoMatch() {
-        EDGE.of(P27, "(1; 5)");
+        EDGE.of(P27, "FAIR of a MATCH (1");
         Edge.Lead all = Leads.both(Leads.matches(3), x -> {
             for (int match = 0; match < 3; match++) {
                 x.mark(match, match, 5 + match);
@@ -206,7 +206,7 @@ public final class MarkEdgesTest {
     }
 
     private static void partsOfAllMatches() {
-        EDGE.of(FAIR, "PART of a result: of all MARKS, not of the MATCH");
+        EDGE.of(FAIR, "each less the PART of its result", "of all MATCHES together");
         PitchSquare x = Edge.led(Leads.matches(2));
         x.mark(0, 0, 8);
         fair("alone", x, 0, 8, 1);

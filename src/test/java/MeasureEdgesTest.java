@@ -31,7 +31,7 @@ public final class MeasureEdgesTest {
     }
 
     private static void days() {
-        EDGE.of("Terms 1, promise 11", "DAYS are 0 to 999: of a STRIP, on a DAY");
+        EDGE.of("Terms 1, promise 11", "DAYS are 0 to 999");
         EDGE.ends(Leads::square, "measure(0, #, 5)", (x, day) -> measure(x, 0, day, 5), Edge.NO,
                 0, 999);
     }
@@ -94,7 +94,7 @@ public final class MeasureEdgesTest {
     }
 
     private static void readDays() {
-        EDGE.of("Terms 1, promise 12", "DAYS are 0 to 999: READ on a DAY");
+        EDGE.of("Terms 1, promise 12", "DAYS are 0 to 999");
         for (int day : new int[] {Integer.MIN_VALUE, -1, 1000, Integer.MAX_VALUE}) {
             EDGE.refused(Leads::square, "reads(0, " + day + ")",
                     x -> Edge.number(x.reads(0, day)), Edge.NO, 2);
@@ -200,7 +200,7 @@ public final class MeasureEdgesTest {
     }
 
     private static void noneIfThereIsNone() {
-        EDGE.of(READ, "none if there is none (5)");
+        EDGE.of(READ, "none if there is none");
         Edge.Lead other = Leads.both(Leads.strips(8), x -> {
             x.measure(3, 1, 40);
             x.measure(3, 1, 41);

@@ -37,19 +37,19 @@ public final class PlanEdgesTest {
     }
 
     private static void numberOfCovers() {
-        EDGE.of(P13, "so many COVERED and ROLLED at most (0 to 6 each)");
+        EDGE.of(P13, "so many COVERED and ROLLED at most (0 to 6 each)", "covers");
         EDGE.ends(Leads::square, "plan(0, 2, #, 1)", (x, covers) -> x.plan(0, 2, covers, 1),
                 Edge.NONE, 0, 6);
     }
 
     private static void numberOfRolls() {
-        EDGE.of(P13, "so many COVERED and ROLLED at most (0 to 6 each)");
+        EDGE.of(P13, "so many COVERED and ROLLED at most (0 to 6 each)", "rolls");
         EDGE.ends(Leads::square, "plan(0, 2, 1, #)", (x, rolls) -> x.plan(0, 2, 1, rolls),
                 Edge.NONE, 0, 6);
     }
 
     private static void ofNoStrip() {
-        EDGE.of(P13, "(1; 2; 6)");
+        EDGE.of(P13, "(1; 2; 6", "1");
         EDGE.numbered(Leads::square, "plan(#, 1, 1, 1)", (x, strip) -> x.plan(strip, 1, 1, 1),
                 Edge.NONE, 3);
     }
@@ -252,7 +252,7 @@ public final class PlanEdgesTest {
 
     /** Works and balls that are told for today are not done in a plan. */
     private static void stripAsItIs() {
-        EDGE.of(PLAN, "It begins with the STRIP as it is; nothing else is done, nothing PLAYED");
+        EDGE.of(PLAN, "nothing else is done on these DAYS, nothing PLAYED");
         PitchSquare x = dry(50);
         x.work(0, 2 + 8);
         x.play(0, 1000);
@@ -288,7 +288,7 @@ public final class PlanEdgesTest {
     }
 
     private static void noSuchDay() {
-        EDGE.of(P14, "5: or it has no such DAY");
+        EDGE.of(P14, "or it has no such DAY");
         for (int n = 1; n <= 6; n++) {
             int days = n;
             Edge.Lead planned = Leads.both(Leads::square, x -> x.plan(0, days, 1, 1));

@@ -58,7 +58,7 @@ public final class RateEdgesTest {
     }
 
     private static void comparesAtTheBounds() {
-        EDGE.of(RATED, "TEST: WHAT COMPARES NUMBER, with what is least and most");
+        EDGE.of(RATED, "TEST: WHAT COMPARES NUMBER", "with what is least and most");
         int[] most = {100, 100, 100, 60, 100, 100, 38, 100};
         for (int i = 0; i < WHATS.length; i++) {
             PitchSquare x = Edge.led(Leads.strips(1));
@@ -146,7 +146,7 @@ public final class RateEdgesTest {
     }
 
     private static void rateOfNoStrip() {
-        EDGE.of(P18, "(1; 5)");
+        EDGE.of(P18, "(1; 5: none)", "1");
         EDGE.numbered(Leads::square, "rate(#)", (x, strip) -> x.rate(strip), Edge.NONE, 3);
     }
 
@@ -184,7 +184,7 @@ public final class RateEdgesTest {
     }
 
     private static void whenOfNoStrip() {
-        EDGE.of(P19, "(1; 2; 6; 5)");
+        EDGE.of(P19, "(1; 2: RULE, so many", "1");
         EDGE.numbered(RateEdgesTest::threeRules, "when(#, 0, 1)", (x, strip) -> x.when(strip, 0, 1),
                 Edge.NONE, 3);
     }
@@ -288,7 +288,7 @@ public final class RateEdgesTest {
     }
 
     private static void changesNothing() {
-        EDGE.of("Promises 18, 19", "nothing is changed by asking");
+        EDGE.of("Promises 18, 19", "Nothing is promised beyond the answers and state changes described");
         EDGE.same("rate(0)", Leads.both(Leads::square, x -> x.rate(0)), Leads::square, Probe.values());
         EDGE.same("when(2, 2, 60)", Leads.both(Leads::square, x -> x.when(2, 2, 60)), Leads::square,
                 Probe.values());

@@ -51,7 +51,7 @@ public final class SeasonEdgesTest {
     }
 
     private static void days() {
-        EDGE.of(SEASON, "on a DAY (0 to 999)");
+        EDGE.of(SEASON, "on a DAY (0 to 999; no two alike)", "0 to 999");
         EDGE.ends(Leads::square, "match(#, 5)", (x, day) -> x.match(day, 5), Edge.NONE, 0, 999);
         // A day that is gone may have a match.
         EDGE.taken(Leads.both(Leads::square, PitchSquare::step), "match(1, 5) on day 2",
@@ -64,7 +64,7 @@ public final class SeasonEdgesTest {
     }
 
     private static void noTwoAlike() {
-        EDGE.of(SEASON, "no two alike (7)");
+        EDGE.of(SEASON, "on a DAY (0 to 999; no two alike)", "no two alike");
         // There are matches on days 30, 45 and 60.
         for (int day : new int[] {30, 45, 60}) {
             EDGE.taken(Leads::square, "match the day ahead", x -> x.match(day - 1, 0), Edge.NONE);
@@ -93,7 +93,7 @@ public final class SeasonEdgesTest {
     }
 
     private static void worthOfWhat() {
-        EDGE.of(P21, "(1; 2): no such MATCH, no such STRIP");
+        EDGE.of(P21, "The WORTH of a MATCH on a STRIP (1; 2)", "1");
         EDGE.numbered(Leads::square, "worth(#, 0, 5)",
                 (x, match) -> Edge.number(x.worth(match, 0, 5)), Edge.NO, 3);
         EDGE.numbered(Leads::square, "worth(0, #, 5)",
@@ -109,7 +109,7 @@ public final class SeasonEdgesTest {
     }
 
     private static void worths() {
-        EDGE.of("Terms 3, promise 21", "a WORTH (0 to 100)");
+        EDGE.of("Terms 3, promise 21", "has a WORTH (0 to 100; 50 at first)", "0 to 100");
         EDGE.ends(Leads::square, "worth(0, 0, #)",
                 (x, worth) -> Edge.number(x.worth(0, 0, worth)), Edge.NO, 0, 100);
         for (int worth : new int[] {0, 1, 99, 100}) {
@@ -120,7 +120,7 @@ public final class SeasonEdgesTest {
     }
 
     private static void fiftyAtFirst() {
-        EDGE.of("Terms 3, promise 21", "50 at first");
+        EDGE.of("Terms 3, promise 21", "has a WORTH (0 to 100; 50 at first)", "50");
         PitchSquare x = Edge.led(Leads.both(Leads.strips(6), Leads.matches(8)));
         EDGE.due("give()", x.give(), 400);
         for (int strip = 1; strip < 6; strip++) {
@@ -134,13 +134,13 @@ public final class SeasonEdgesTest {
     }
 
     private static void restNumbers() {
-        EDGE.of("Terms 3, promise 22", "REST days (0 to 60)");
+        EDGE.of("Terms 3, promise 22", "REST days (0 to 60; 10 at first)", "0 to 60");
         EDGE.ends(Leads::square, "rests(#, 5)", (x, rest) -> Edge.number(x.rests(rest, 5)), Edge.NO,
                 0, 60);
     }
 
     private static void sparedNumbers() {
-        EDGE.of("Terms 3, promise 22", "the SPARED days (0 to 100)");
+        EDGE.of("Terms 3, promise 22", "the SPARED days (0 to 100; 20 at first)", "0 to 100");
         EDGE.ends(Leads::square, "rests(5, #)", (x, spared) -> Edge.number(x.rests(5, spared)),
                 Edge.NO, 0, 100);
     }
@@ -171,14 +171,14 @@ public final class SeasonEdgesTest {
     }
 
     private static void restAtFirst() {
-        EDGE.of(GIVING, "REST days (10 at first)");
+        EDGE.of(GIVING, "REST days (0 to 60; 10 at first)", "10");
         fits("9 apart", oneStrip(100, 0, 109, 0), false);
         fits("10 apart", oneStrip(100, 0, 110, 0), true);
         fits("11 apart", oneStrip(100, 0, 111, 0), true);
     }
 
     private static void restApartOrMore() {
-        EDGE.of(GIVING, "two on one STRIP are REST days apart or more (the later less the earlier)");
+        EDGE.of(GIVING, "apart or more (the later DAY less the earlier one)");
         for (int rest : new int[] {2, 3, 30, 59, 60}) {
             apart(rest - 1, rest, false);
             apart(rest, rest, true);
@@ -200,7 +200,7 @@ public final class SeasonEdgesTest {
     }
 
     private static void restOfEachPair() {
-        EDGE.of(GIVING, "so that two on one STRIP: each two");
+        EDGE.of(GIVING, "so that two on one STRIP are REST days", "each two");
         fits("three, all apart", oneStrip(100, 0, 120, 0, 110, 0), true);
         fits("three, the last two close", oneStrip(100, 0, 120, 0, 111, 0), false);
         fits("three, the first two close", oneStrip(100, 0, 120, 0, 109, 0), false);
@@ -211,7 +211,7 @@ public final class SeasonEdgesTest {
     }
 
     private static void sparedAtFirst() {
-        EDGE.of(GIVING, "SPARED days (20 at first)");
+        EDGE.of(GIVING, "the SPARED days (0 to 100; 20 at first)", "20");
         fits("19 ahead", oneStrip(100, 0, 119, 9), false);
         fits("20 ahead", oneStrip(100, 0, 120, 9), false);
         fits("21 ahead", oneStrip(100, 0, 121, 9), true);
@@ -228,7 +228,7 @@ public final class SeasonEdgesTest {
     }
 
     private static void sparedDays() {
-        EDGE.of(GIVING, "a STRIP on which a MATCH of RANK 9 is has none in the SPARED days ahead");
+        EDGE.of(GIVING, "a STRIP on which a MATCH of RANK 9 is has none in the SPARED days");
         for (int spared : new int[] {2, 50, 99, 100}) {
             sparedBy(spared - 1, spared, false);
             sparedBy(spared, spared, false);
@@ -240,7 +240,7 @@ public final class SeasonEdgesTest {
     }
 
     private static void sparedAheadAlone() {
-        EDGE.of(GIVING, "in the SPARED days ahead of that");
+        EDGE.of(GIVING, "ahead of that");
         // Behind the final only the rest counts.
         fits("9 behind", oneStrip(100, 9, 109, 0), false);
         fits("10 behind", oneStrip(100, 9, 110, 0), true);
@@ -266,7 +266,7 @@ public final class SeasonEdgesTest {
     }
 
     private static void restBesideSpared() {
-        EDGE.of(GIVING, "REST days apart or more, and none in the SPARED days");
+        EDGE.of(GIVING, "and a STRIP on which a MATCH of RANK 9 is", "beside REST");
         PitchSquare x = oneStrip(100, 0, 130, 9);
         x.rests(31, 10);
         fits("30 ahead, rest 31, spared 10", x, false);
@@ -441,9 +441,14 @@ public final class SeasonEdgesTest {
         x.match(29, 0);
         EDGE.due("given(1) behind match()", x.given(1), 0);
         EDGE.due("given(2) behind match()", x.given(2), 1);
+        x.match(31, 0);
+        EDGE.due("give() of three matches on two strips", x.give(), Edge.NONE);
+        EDGE.due("given(3) of three matches on two strips", x.given(3), Edge.NONE);
         x.strip();
+        EDGE.due("given(3) behind strip()", x.given(3), 2);
+        EDGE.due("give() behind strip()", x.give(), 200);
         x.worth(2, 2, 51);
-        EDGE.due("given(2) behind strip()", x.given(2), 2);
+        EDGE.due("given(2) behind worth() of the new strip", x.given(2), 2);
         EDGE.same("give() and given()", Leads.both(Leads::square, y -> {
             y.give();
             y.given(1);

@@ -10,6 +10,8 @@ public final class StatusEdgesTest {
         everyStatus();
         callsWithout();
         callsWith();
+        refusedIntCalls();
+        refusedBooleanCalls();
         oneBeforeTwo();
         oneBeforeOthers();
         twoBeforeThree();
@@ -125,9 +127,75 @@ public final class StatusEdgesTest {
         EDGE.refused(lead, call, made, Edge.NONE, status);
     }
 
+    private static final String CHANGES_NOTHING =
+            "gives NONE, or false, and changes nothing but STATUS";
+
+    private static void crowded(PitchSquare x) {
+        Leads.square(x);
+        for (int match = 0; match < 4; match++) {
+            x.match(100 + match, 0);
+        }
+    }
+
+    private static void unrated(PitchSquare x) {
+        Leads.square(x);
+        x.rules(0);
+        Texts.read(x, "a when wear>100;b when rain>100;");
+    }
+
+    /** Each status that a promise lists, but for those that 512 calls do not reach, and 8. */
+    private static void refusedIntCalls() {
+        EDGE.of(FIRST, CHANGES_NOTHING, "NONE");
+        none(Leads::full, "strip: 3", PitchSquare::strip, 3);
+        none(Leads::square, "told: 1", x -> x.told(3, 0), 1);
+        none(Leads::square, "told: 2", x -> x.told(0, 7), 2);
+        none(Leads::square, "plan: 1", x -> x.plan(3, 1, 1, 1), 1);
+        none(Leads::square, "plan: 2", x -> x.plan(0, 7, 1, 1), 2);
+        none(Leads::square, "planned: 5", x -> x.planned(3), 5);
+        none(Leads::square, "rules: 2", x -> x.rules(21), 2);
+        none(Leads::square, "rate: 1", x -> x.rate(3), 1);
+        none(StatusEdgesTest::unrated, "rate: 5", x -> x.rate(0), 5);
+        none(Leads::square, "when: 1", x -> x.when(3, 0, 1), 1);
+        none(Leads::square, "when: 2", x -> x.when(0, 3, 1), 2);
+        none(Leads::square, "when: 5", x -> x.when(0, 0, 1), 5);
+        none(Leads::square, "match: 2", x -> x.match(1000, 0), 2);
+        none(Leads::full, "match: 3", x -> x.match(999, 0), 3);
+        none(Leads::square, "match: 7", x -> x.match(30, 0), 7);
+        none(StatusEdgesTest::crowded, "give: 6", PitchSquare::give, 6);
+        none(StatusEdgesTest::crowded, "given: 1", x -> x.given(7), 1);
+        none(StatusEdgesTest::crowded, "given: 6", x -> x.given(0), 6);
+    }
+
+    private static void refusedBooleanCalls() {
+        EDGE.of(FIRST, CHANGES_NOTHING, "false");
+        no(Leads::square, "set: 1", x -> Edge.number(x.set(3, 0, 0, 0, 0, 0, 0)), 1);
+        no(Leads::square, "set: 2", x -> Edge.number(x.set(0, 0, 0, 0, 0, 0, 101)), 2);
+        no(Leads::square, "weather: 2", x -> Edge.number(x.weather(1, 0, 21, true)), 2);
+        no(Leads::square, "weather: 4", x -> Edge.number(x.weather(0, 0, 0, true)), 4);
+        no(Leads::square, "work: 1", x -> Edge.number(x.work(3, 0)), 1);
+        no(Leads::square, "work: 2", x -> Edge.number(x.work(0, 32)), 2);
+        no(Leads::square, "play: 1", x -> Edge.number(x.play(3, 1)), 1);
+        no(Leads::square, "play: 2", x -> Edge.number(x.play(0, 601)), 2);
+        no(Leads::square, "measure: 1", x -> Edge.number(x.measure(3, 0, 0)), 1);
+        no(Leads::square, "measure: 2", x -> Edge.number(x.measure(0, 0, 101)), 2);
+        no(Leads::full, "measure: 3", x -> Edge.number(x.measure(0, 0, 0)), 3);
+        no(Leads::square, "reads: 1", x -> Edge.number(x.reads(3, 0)), 1);
+        no(Leads::square, "reads: 2", x -> Edge.number(x.reads(0, 1000)), 2);
+        no(Leads::square, "reads: 5", x -> Edge.number(x.reads(0, 2)), 5);
+        no(Leads::square, "worth: 1", x -> Edge.number(x.worth(3, 0, 0)), 1);
+        no(Leads::square, "worth: 2", x -> Edge.number(x.worth(0, 0, 101)), 2);
+        no(Leads::square, "rests: 2", x -> Edge.number(x.rests(0, 101)), 2);
+        no(Leads::square, "mark: 1", x -> Edge.number(x.mark(3, 0, 0)), 1);
+        no(Leads::square, "mark: 2", x -> Edge.number(x.mark(0, 0, 11)), 2);
+        no(Leads::full, "mark: 3", x -> Edge.number(x.mark(0, 0, 0)), 3);
+        no(Leads::square, "part: 2", x -> Edge.number(x.part(3)), 2);
+        no(Leads::square, "fair: 1", x -> Edge.number(x.fair(3)), 1);
+        no(StatusEdgesTest::crowded, "fair: 5", x -> Edge.number(x.fair(3)), 5);
+    }
+
     /** Each call that can have both, with no such strip or match and numbers that can't be. */
     private static void oneBeforeTwo() {
-        EDGE.of(FIRST, "the first of these that holds: 1 ahead of 2");
+        EDGE.of(FIRST, "the first of these that holds", "1 ahead of 2");
         for (int no : new int[] {-1, 3}) {
             no(Leads::square, "set", x -> Edge.number(x.set(no, BAD, BAD, BAD, BAD, BAD, BAD)), 1);
             none(Leads::square, "told", x -> x.told(no, BAD), 1);
@@ -145,7 +213,7 @@ public final class StatusEdgesTest {
     }
 
     private static void oneBeforeOthers() {
-        EDGE.of(FIRST, "the first of these that holds: 1 ahead of 3, 5, 6");
+        EDGE.of(FIRST, "the first of these that holds", "1 ahead of 3, 5, 6");
         no(Leads::full, "measure: 1 and 3", x -> Edge.number(x.measure(8, 0, 0)), 1);
         no(Leads::full, "measure: 1, 2 and 3", x -> Edge.number(x.measure(8, BAD, 0)), 1);
         no(Leads::full, "mark: 1 and 3", x -> Edge.number(x.mark(8, 0, 0)), 1);
@@ -160,7 +228,7 @@ public final class StatusEdgesTest {
     }
 
     private static void twoBeforeThree() {
-        EDGE.of(FIRST, "the first of these that holds: 2 ahead of 3");
+        EDGE.of(FIRST, "the first of these that holds", "2 ahead of 3");
         no(Leads::full, "measure day", x -> Edge.number(x.measure(0, 1000, 0)), 2);
         no(Leads::full, "measure number", x -> Edge.number(x.measure(0, 0, 101)), 2);
         no(Leads::full, "measure: 3 alone", x -> Edge.number(x.measure(0, 0, 100)), 3);
@@ -173,7 +241,7 @@ public final class StatusEdgesTest {
     }
 
     private static void twoBeforeFour() {
-        EDGE.of(FIRST, "the first of these that holds: 2 ahead of 4");
+        EDGE.of(FIRST, "the first of these that holds", "2 ahead of 4");
         for (boolean came : new boolean[] {false, true}) {
             no(Leads::square, "weather day -1", x -> Edge.number(x.weather(-1, 0, 0, came)), 2);
             no(Leads::square, "weather rain", x -> Edge.number(x.weather(0, 101, 0, came)), 2);
@@ -183,7 +251,7 @@ public final class StatusEdgesTest {
     }
 
     private static void twoBeforeFive() {
-        EDGE.of(FIRST, "the first of these that holds: 2 ahead of 5");
+        EDGE.of(FIRST, "the first of these that holds", "2 ahead of 5");
         no(Leads.strips(1), "reads", x -> Edge.number(x.reads(0, 1000)), 2);
         no(Leads.strips(1), "reads: 5 alone", x -> Edge.number(x.reads(0, 999)), 5);
         Edge.Lead rule = Leads.both(Leads.strips(1), x -> Texts.read(x, "a when wear=1;"));
@@ -193,7 +261,7 @@ public final class StatusEdgesTest {
     }
 
     private static void twoBeforeSevenAndEight() {
-        EDGE.of(FIRST, "the first of these that holds: 2 ahead of 7 and of 8");
+        EDGE.of(FIRST, "the first of these that holds", "2 ahead of 7 and of 8");
         none(Leads::square, "match rank", x -> x.match(30, 10), 2);
         none(Leads::square, "match: 7 alone", x -> x.match(30, 9), 7);
         Edge.Lead faulty = Leads.both(Leads::square, x -> Texts.feed(x, "!"));
@@ -204,7 +272,7 @@ public final class StatusEdgesTest {
     }
 
     private static void threeBeforeSeven() {
-        EDGE.of(FIRST, "the first of these that holds: 3 ahead of 7");
+        EDGE.of(FIRST, "the first of these that holds", "3 ahead of 7");
         for (int match = 0; match < 8; match++) {
             int day = 30 * match;
             none(Leads::full, "match(" + day + ", 0)", x -> x.match(day, 0), 3);
@@ -213,7 +281,7 @@ public final class StatusEdgesTest {
     }
 
     private static void fiveHundredAndTwelveSteps() {
-        EDGE.of(WHAT_IT_IS, "An object is used for at most 512 calls after it has been made");
+        EDGE.of(WHAT_IT_IS, "An object is used for at most 512 calls after it has been made", "steps");
         PitchSquare x = new PitchSquare();
         for (int call = 1; call <= 512; call++) {
             EDGE.due("step() as call " + call, x.step(), call);
@@ -224,27 +292,26 @@ public final class StatusEdgesTest {
 
     /** 510 calls that fill the object up; the 511th and the 512th are answered as any. */
     private static void fiveHundredAndTwelveMixed() {
-        EDGE.of(WHAT_IT_IS, "at most 512 calls: the 511th and the 512th");
+        EDGE.of(WHAT_IT_IS, "An object is used for at most 512 calls after it has been made", "all");
         for (int last = 0; last < 4; last++) {
             PitchSquare x = Edge.led(Leads::full);
-            // full() has made 8, 8, 200, 100 and 20 calls.
-            EDGE.due("rules(400) as call 337", x.rules(400), 8);
-            for (int call = 338; call <= 509; call++) {
-                x.plan(call % 8, 1, 0, 0);
+            EDGE.due("rules(400)", x.rules(400), 8);
+            EDGE.yes("weather()", x.weather(0, 0, 0, false));
+            for (int call = Leads.CALLS_OF_FULL + 3; call <= 510; call++) {
+                x.set(call % 8, 40, 60, 100, 0, call % 2 == 0 ? 50 : 30, 0);
             }
-            EDGE.due("status() as call 510", x.status(), 0);
             switch (last) {
                 case 0 -> {
-                    EDGE.due("give() as call 511", x.give(), 400);
-                    EDGE.due("given(7) as call 512", x.given(7), 0);
+                    EDGE.due("give() as call 511", x.give(), 410);
+                    EDGE.due("given(7) as call 512", x.given(7), 5);
                 }
                 case 1 -> {
                     EDGE.due("match() as call 511", x.match(999, 0), Edge.NONE);
                     EDGE.due("status() as call 512", x.status(), 3);
                 }
                 case 2 -> {
-                    EDGE.due("plan() as call 511", x.plan(0, 6, 6, 6), 68);
-                    EDGE.due("planned(5) as call 512", x.planned(5), 2);
+                    EDGE.due("plan() as call 511", x.plan(0, 3, 6, 6), 68);
+                    EDGE.due("planned(2) as call 512", x.planned(2), 2);
                 }
                 default -> {
                     EDGE.due("feed() as call 511", x.feed(0, 0, 0, 0, 0), 20);

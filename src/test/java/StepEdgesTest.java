@@ -2,6 +2,7 @@
 public final class StepEdgesTest {
     private static final Edge EDGE = new Edge();
     private static final String STEP = "Terms 1, promise 9";
+    private static final String CUT = "each number cut to its bounds as it is made";
     private static final int COVERED = 1;
     private static final int ROLLED = 2;
     private static final int MOWN = 4;
@@ -81,7 +82,7 @@ public final class StepEdgesTest {
     }
 
     private static void growsByRain() {
-        EDGE.of(STEP, "The first layer grows by RAIN; each number cut to its bounds as it is made");
+        EDGE.of(STEP, "The first layer grows by RAIN");
         first(40, 0, 0, 0, 0, 40);
         first(40, 1, 0, 0, 0, 41);
         first(40, 59, 0, 0, 0, 99);
@@ -112,7 +113,7 @@ public final class StepEdgesTest {
     }
 
     private static void cutAheadOfTheSeep() {
-        EDGE.of(STEP, "each number cut to its bounds as it is made");
+        EDGE.of(STEP, CUT, "the first layer ahead of the seep");
         seep(95, 0, 4, 75, 24);
         seep(95, 0, 5, 75, 25);
         seep(95, 0, 6, 75, 25);
@@ -123,7 +124,7 @@ public final class StepEdgesTest {
     }
 
     private static void seepToTheSecond() {
-        EDGE.of(STEP, "if the first layer has more than the second, the difference by 4 goes to it");
+        EDGE.of(STEP, "if the first layer has more than the second, the difference by 4 goes from it");
         seep(42, 50, 0, 42, 50);
         seep(46, 50, 0, 46, 50);
         seep(49, 50, 0, 49, 50);
@@ -211,7 +212,7 @@ public final class StepEdgesTest {
     }
 
     private static void firstNotBelowZero() {
-        EDGE.of(STEP, "each number cut to its bounds: the first layer");
+        EDGE.of(STEP, CUT, "the first layer");
         first(19, 0, 20, 0, 0, 0);
         first(20, 0, 20, 0, 0, 0);
         first(21, 0, 20, 0, 0, 1);
@@ -266,7 +267,7 @@ public final class StepEdgesTest {
     }
 
     private static void rolledSecondLayer() {
-        EDGE.of(STEP, "and the second not above 70; else, if the first is above 60, HARD falls");
+        EDGE.of(STEP, "and the second not above 70");
         hard(50, 69, 50, ROLLED, 57);
         hard(50, 70, 50, ROLLED, 57);
         hard(50, 71, 50, ROLLED, 50);
@@ -287,7 +288,7 @@ public final class StepEdgesTest {
     }
 
     private static void rolledBehindTheSun() {
-        EDGE.of(STEP, "in this order: ROLLED behind the layers' gains and losses");
+        EDGE.of(STEP, "in this order", "ROLLED behind the layers' gains and losses");
         rolledOn(of(30, 65, 100, 0, 50, 0), 0, 4, 57);
         rolledOn(of(30, 65, 100, 0, 50, 0), 0, 5, 57);
         rolledOn(of(30, 65, 100, 0, 50, 0), 0, 6, 50);
@@ -359,7 +360,7 @@ public final class StepEdgesTest {
     }
 
     private static void grassBySecond() {
-        EDGE.of(STEP, "grows by 2 if from 20 to 80; else by 1 if from 10 to 90; else falls by 1");
+        EDGE.of(STEP, "if the second layer is from 20 to 80; else by 1 if it is from 10 to 90; else");
         int[][] seconds = {{0, 9}, {8, 9}, {9, 9}, {10, 11}, {11, 11}, {18, 11}, {19, 11}, {20, 12},
             {21, 12}, {79, 12}, {80, 12}, {81, 11}, {82, 11}, {89, 11}, {90, 11}, {91, 9}, {92, 9},
             {100, 9}};
@@ -369,7 +370,7 @@ public final class StepEdgesTest {
     }
 
     private static void grassBehindTheSeep() {
-        EDGE.of(STEP, "in this order: GRASS behind the second layer's gains and losses");
+        EDGE.of(STEP, "in this order", "GRASS behind the second layer's gains and losses");
         // 20 by 20 is lost ahead of it.
         grass(21, 20, 0, 0, 22);
         grass(20, 20, 0, 0, 21);
@@ -383,7 +384,7 @@ public final class StepEdgesTest {
     }
 
     private static void grassIsCut() {
-        EDGE.of(STEP, "each number cut to its bounds: GRASS");
+        EDGE.of(STEP, CUT, "GRASS");
         grass(50, 57, 0, 0, 59);
         grass(50, 58, 0, 0, 60);
         grass(50, 59, 0, 0, 60);
@@ -421,7 +422,7 @@ public final class StepEdgesTest {
     }
 
     private static void seeded() {
-        EDGE.of(STEP, "SEEDED: WEAR falls by 3");
+        EDGE.of(STEP, "WEAR falls by 3");
         wear(0, SEEDED, 0, 0);
         wear(1, SEEDED, 0, 0);
         wear(2, SEEDED, 0, 0);
@@ -452,7 +453,7 @@ public final class StepEdgesTest {
     }
 
     private static void wearIsCut() {
-        EDGE.of(STEP, "each number cut to its bounds: WEAR");
+        EDGE.of(STEP, CUT, "WEAR");
         wear(98, 0, 40, 99);
         wear(99, 0, 40, 100);
         wear(100, 0, 40, 100);
@@ -481,7 +482,7 @@ public final class StepEdgesTest {
     }
 
     private static void hardIsCutAsItIsMade() {
-        EDGE.of(STEP, "each number cut to its bounds as it is made: HARD, ROLLED and then PLAYED");
+        EDGE.of(STEP, CUT, "HARD, ROLLED and then PLAYED");
         // 101 would be cut to 100 ahead of the balls.
         hardPlayed(100, ROLLED, 1000, 95);
         hardPlayed(99, ROLLED, 1000, 95);
@@ -489,7 +490,7 @@ public final class StepEdgesTest {
     }
 
     private static void inThisOrder() {
-        EDGE.of(STEP, "in this order: GRASS by WEAR ahead of SEEDED and PLAYED");
+        EDGE.of(STEP, "in this order", "GRASS by WEAR ahead of SEEDED and PLAYED");
         EDGE.state("WEAR 50 and 40 balls", day(of(0, 50, 100, 10, 50, 50), 0, 0, 0, 40), 0,
                 0, 50, 90, 12, 50, 51);
         EDGE.state("WEAR 51, SEEDED", day(of(0, 50, 100, 10, 50, 51), 0, 0, SEEDED, 0), 0,

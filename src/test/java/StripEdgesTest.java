@@ -102,7 +102,7 @@ public final class StripEdgesTest {
     }
 
     private static void asTheyAreAtFirst() {
-        EDGE.of("Terms 1", "40 at first; 12 at first; 30 at first; 0 at first");
+        EDGE.of("Terms 1, promise 3", "at first");
         PitchSquare x = Edge.led(Leads.strips(8));
         for (int strip = 0; strip < 8; strip++) {
             EDGE.state("strip()", x, strip, 40, 40, 40, 12, 30, 0, 30);
@@ -125,11 +125,11 @@ public final class StripEdgesTest {
     private static final String[] NAMES = {"first", "second", "third", "GRASS", "HARD", "WEAR"};
 
     private static void boundsOfAState() {
-        String[] sentences = {"WET, three layers (0 to 100 each)", "WET, three layers (0 to 100 each)",
-            "WET, three layers (0 to 100 each)", "GRASS (0 to 60 lines)", "HARD (0 to 100)",
-            "WEAR (0 to 100)"};
+        String layers = "WET, three layers (0 to 100 each; 40 at first)";
+        String[] sentences = {layers, layers, layers, "GRASS (0 to 60 lines; 12 at first)",
+            "HARD (0 to 100; 30 at first)", "WEAR (0 to 100; 0 at first)"};
         for (int which = 0; which < 6; which++) {
-            EDGE.of("Terms 1, promise 4", sentences[which]);
+            EDGE.of("Terms 1, promise 4", sentences[which], NAMES[which]);
             int one = which;
             EDGE.ends(Leads::square, "set(1, ..) with # as " + NAMES[which],
                     (x, number) -> Edge.number(setOne(x, one, number)), Edge.NO, 0, MOST[which]);

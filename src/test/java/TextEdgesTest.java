@@ -59,7 +59,7 @@ public final class TextEdgesTest {
     }
 
     private static void twentyBytes() {
-        EDGE.of(P15, "Twenty bytes come behind those on the tape: how many it has");
+        EDGE.of(P15, "Twenty bytes come behind those on the tape");
         PitchSquare x = new PitchSquare();
         for (int i = 1; i <= 20; i++) {
             EDGE.due("feed", feedBlanks(x), 20 * i);
@@ -126,7 +126,7 @@ public final class TextEdgesTest {
     }
 
     private static void firstBytes() {
-        EDGE.of(P16, "The first n bytes of the tape are the TEXT");
+        EDGE.of(P16, "The first n bytes of the tape");
         String text = "a when rain=1234;!";
         cut(text, 0, 0, -1);
         cut(text, 1, 2, 1);
@@ -196,7 +196,7 @@ public final class TextEdgesTest {
     }
 
     private static void rulesStay() {
-        EDGE.of(P16, "8: the RULES stay");
+        EDGE.of(P16, "the RULES stay");
         String[] texts = {"!", "a", "a when rain=1;b", "a when rain=1;a", Texts.EIGHT_RULES + "i"};
         for (String text : texts) {
             Edge.Lead faulty = Leads.both(TextEdgesTest::ruled, x -> Texts.read(x, text));
@@ -312,7 +312,7 @@ public final class TextEdgesTest {
     }
 
     private static void everyByteFirst() {
-        EDGE.of(FAULTS, "1 no TOKEN begins so; WORDS (small letters), NUMBERS, SIGNS < > = ;");
+        EDGE.of(FAULTS, "1 no TOKEN begins so", "every byte");
         for (int b = 0; b < 256; b++) {
             String text = String.valueOf((char) b);
             if (b == 10 || b == 32) {
@@ -326,7 +326,7 @@ public final class TextEdgesTest {
     }
 
     private static void everyByteBehindAWord() {
-        EDGE.of(FAULTS, "1 no TOKEN begins so: behind a WORD and a NUMBER");
+        EDGE.of(FAULTS, "1 no TOKEN begins so", "every byte behind a WORD and a NUMBER");
         for (int b = 0; b < 256; b++) {
             char c = (char) b;
             if (isLetter(b) || b == 10 || b == 32) {
@@ -380,8 +380,12 @@ public final class TextEdgesTest {
         good("when when rain=0;and when rain=0;rain when rain=0;bounce when rain=0;", 4);
     }
 
+    private static String otherLetter(String word, int at) {
+        return word.substring(0, at) + "x" + word.substring(at + 1);
+    }
+
     private static void whatsAndSigns() {
-        EDGE.of(TEXT, "WHAT: bounce, first, second, third, grass, hard, wear, rain; COMPARES: < > =");
+        EDGE.of(TEXT, "WHAT: bounce, first, second, third, grass, hard, wear, rain", "COMPARES");
         String[] whats = {"bounce", "first", "second", "third", "grass", "hard", "wear", "rain"};
         for (String what : whats) {
             for (String sign : new String[] {"<", ">", "="}) {
@@ -391,7 +395,9 @@ public final class TextEdgesTest {
             bad("a when " + what + "s=0;", 2, 7);
             bad("a when " + what.substring(1) + "=0;", 2, 7);
             bad("a when " + what.substring(0, what.length() - 1) + "=0;", 2, 7);
-            bad("a when " + what.substring(0, what.length() - 1) + "x=0;", 2, 7);
+            for (int i = 0; i < what.length(); i++) {
+                bad("a when " + otherLetter(what, i) + "=0;", 2, 7);
+            }
         }
         bad("a when sun=0;", 2, 7);
         bad("a when day=0;", 2, 7);
@@ -413,6 +419,13 @@ public final class TextEdgesTest {
         bad("a whenn rain=0;", 2, 2);
         bad("a when rain=0 an rain=0;", 2, 14);
         bad("a when rain=0 andd rain=0;", 2, 14);
+        // Every letter of a word counts.
+        for (int i = 0; i < 4; i++) {
+            bad("a " + otherLetter("when", i) + " rain=0;", 2, 2);
+        }
+        for (int i = 0; i < 3; i++) {
+            bad("a when rain=0 " + otherLetter("and", i) + " rain=0;", 2, 14);
+        }
     }
 
     private static void firstAlongTheText() {
@@ -501,7 +514,7 @@ public final class TextEdgesTest {
     }
 
     private static void seventhTest() {
-        EDGE.of(FAULTS, "3 a seventh TEST of a RULE (at its WHAT)");
+        EDGE.of(FAULTS, "a seventh TEST of a RULE (at its WHAT)");
         int length = SIX_TESTS.length();
         good(SIX_TESTS + ";", 1);
         bad(SIX_TESTS, 2, length);
@@ -527,6 +540,14 @@ public final class TextEdgesTest {
         bad(Texts.EIGHT_RULES.substring(0, 98) + "a", 4, 98);
         good("a when rain=0;ab when rain=0;abc when rain=0;b when rain=0;bc when rain=0;", 5);
         good("ab when rain=0;a when rain=0;", 2);
+        // What stands behind a name is not of it.
+        bad("a when rain=0;a\nwhen rain=0;", 4, 14);
+        bad("a\nwhen rain=0;a when rain=0;", 4, 14);
+        bad("a when rain=0;a;", 4, 14);
+        bad("a when rain=0;a!", 4, 14);
+        for (int i = 0; i < 8; i++) {
+            good("abcdefgh when rain=0;" + otherLetter("abcdefgh", i) + " when rain=0;", 2);
+        }
         good("abcdefgh when rain=0;abcdefgi when rain=0;bbcdefgh when rain=0;", 3);
         // The names of a text before are none of this one's.
         PitchSquare x = new PitchSquare();
@@ -537,7 +558,7 @@ public final class TextEdgesTest {
     }
 
     private static void faultOfTheLatest() {
-        EDGE.of(P17, "Of the latest rules() with STATUS 0 or 8; NONE ahead of any");
+        EDGE.of(P17, "Of the latest rules() with STATUS 0 or 8");
         PitchSquare x = new PitchSquare();
         told("ahead of any", x, -1, -1);
         x.rules(-1);
