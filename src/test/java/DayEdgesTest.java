@@ -27,7 +27,6 @@ public final class DayEdgesTest {
         newDay();
         nothingToldForTheNewDay();
         allStrips();
-        todayIsLast();
         EDGE.end();
     }
 
@@ -296,26 +295,5 @@ public final class DayEdgesTest {
                 EDGE.state("step()", x, strip, 40, 40, 36, 2, 50, 0);
             }
         }
-    }
-
-    /** Behind more than 512 calls, where answers are free: the class keeps its word there too. */
-    private static void todayIsLast() {
-        EDGE.of(P9, "6: today is 999");
-        Edge.Lead almost = Leads.both(Leads::square, x -> Check.goTo(x, 998));
-        EDGE.due("step() on day 998", Edge.led(almost).step(), 999);
-        EDGE.taken(almost, "step() on day 998", PitchSquare::step, Edge.NONE);
-        // A state that a step would change, and balls that a step would forget.
-        Edge.Lead last = Leads.both(almost, x -> {
-            x.step();
-            x.set(0, 55, 40, 40, 10, 50, 0);
-            x.play(0, 400);
-        });
-        EDGE.refused(last, "step() on day 999", PitchSquare::step, Edge.NONE, 6);
-        PitchSquare x = Edge.led(last);
-        x.step();
-        EDGE.due("day()", x.day(), 999);
-        EDGE.state("step() on day 999", x, 0, 55, 40, 40, 10, 50, 0);
-        EDGE.due("play(0, 601)", play(x, 601), 0);
-        EDGE.due("play(0, 600)", play(x, 600), 1);
     }
 }

@@ -13,7 +13,6 @@ public final class DaysTest {
         mowingSeedingPlaying();
         worksEndWithTheDay();
         eachStripByItself();
-        lastDay();
         CHECK.end();
     }
 
@@ -195,19 +194,5 @@ public final class DaysTest {
         CHECK.state(x, 0, 42, 42, 36, 14, 30, 0);
         CHECK.state(x, 1, 38, 40, 36, 14, 39, 0);
         CHECK.state(x, 2, 42, 42, 36, 14, 29, 5);
-    }
-
-    private static void lastDay() {
-        PitchSquare x = Check.withStrips(1);
-        Check.goTo(x, 998);
-        CHECK.due("day()", x.day(), 998);
-        CHECK.due("step()", x.step(), 999);
-        x.set(0, 40, 40, 40, 12, 30, 0);
-        x.play(0, 400);
-        CHECK.refused(x, "step() on day 999", x.step(), 6);
-        CHECK.due("day()", x.day(), 999);
-        CHECK.state(x, 0, 40, 40, 40, 12, 30, 0, 30);
-        CHECK.refused(x, "play: the balls are still told", x.play(0, 601), 2);
-        CHECK.yes("weather(999, ..)", x.weather(999, 1, 1, true));
     }
 }

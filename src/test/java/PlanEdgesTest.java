@@ -27,7 +27,6 @@ public final class PlanEdgesTest {
         noneYet();
         noSuchDay();
         foundLatest();
-        todayAndDaysAboveLast();
         EDGE.end();
     }
 
@@ -316,20 +315,5 @@ public final class PlanEdgesTest {
         planned("a day and another state behind it", x, 0, 2);
         x.plan(0, 4, 0, 0);
         planned("a longer one", x, 0, 0, 0, 0);
-    }
-
-    /** Behind more than 512 calls, where answers are free: the class keeps its word there too. */
-    private static void todayAndDaysAboveLast() {
-        EDGE.of(P13, "6: today and n are above 999");
-        for (int n : new int[] {1, 6}) {
-            int days = n;
-            Edge.Lead below = Leads.both(Leads::square, x -> Check.goTo(x, 998 - days));
-            Edge.Lead at = Leads.both(below, PitchSquare::step);
-            Edge.Lead above = Leads.both(at, PitchSquare::step);
-            EDGE.taken(below, "plan of " + n + " up to 998", x -> x.plan(0, days, 1, 1), Edge.NONE);
-            EDGE.taken(at, "plan of " + n + " up to 999", x -> x.plan(0, days, 1, 1), Edge.NONE);
-            EDGE.refused(above, "plan of " + n + " up to 1000", x -> x.plan(0, days, 1, 1),
-                    Edge.NONE, 6);
-        }
     }
 }

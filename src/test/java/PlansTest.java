@@ -4,7 +4,6 @@ public final class PlansTest {
 
     public static void main(String[] args) {
         refusals();
-        lastDays();
         fewestThenFirst();
         limits();
         oneCover();
@@ -29,19 +28,6 @@ public final class PlansTest {
         CHECK.refused(x, "planned(6)", x.planned(6), 5);
         CHECK.refused(x, "planned(-1)", x.planned(-1), 5);
         CHECK.refused(x, "planned(MAX)", x.planned(Integer.MAX_VALUE), 5);
-    }
-
-    private static void lastDays() {
-        PitchSquare x = Check.withStrips(1);
-        Check.goTo(x, 993);
-        x.set(0, 40, 40, 40, 0, 30, 0);
-        CHECK.due("plan of six from 993", x.plan(0, 6, 0, 0), 30);
-        x.step();
-        CHECK.refused(x, "plan of six from 994", x.plan(0, 6, 0, 0), 6);
-        CHECK.refused(x, "plan of seven from 994", x.plan(0, 7, 0, 0), 2);
-        CHECK.due("plan of five from 994", x.plan(0, 5, 0, 0), 30);
-        Check.goTo(x, 999);
-        CHECK.refused(x, "plan of one from 999", x.plan(0, 1, 0, 0), 6);
     }
 
     private static void plannedAre(PitchSquare x, int... want) {

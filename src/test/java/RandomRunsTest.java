@@ -1,9 +1,14 @@
 import java.util.Random;
 
-/** All promises: long runs of calls, drawn from fixed seeds, against PlainSquare. */
+/**
+ * All promises: runs of calls, drawn from fixed seeds, against PlainSquare. What later calls answer
+ * is free, so every call is counted, and a run ends while the object's 512 still hold a turn.
+ */
 public final class RandomRunsTest {
-    private static final int RUNS = 400;
+    private static final int RUNS = 3000;
     private static final int CALLS = 512;
+    private static final int MOST_CALLS_OF_A_TURN = 64;
+    private static final int LONGEST_TEXT = 420;
     private static final String[] WORDS = {"a", "b", "abcdefgh", "abcdefghi", "when", "when", "when",
         "and", "and", "and", "bounce", "first", "second", "third", "grass", "hard", "wear", "rain",
         "<", ">", "=", ";", ";", "0", "5", "40", "100", "999", "1000", "!", "\n"};
@@ -14,6 +19,7 @@ public final class RandomRunsTest {
     private final Random random;
     private final PitchSquare x = new PitchSquare();
     private final PlainSquare y = new PlainSquare();
+    private int made = 0;
 
     private RandomRunsTest(Check check, int seed) {
         this.check = check;
@@ -34,12 +40,10 @@ public final class RandomRunsTest {
         for (int i = 0; i < strips; i++) {
             same("strip()", x.strip(), y.strip());
         }
-        if (random.nextInt(12) == 0) {
-            for (int i = 0; i < 930 + random.nextInt(70); i++) {
-                same("step()", x.step(), y.step());
-            }
+        if (random.nextInt(8) == 0) {
+            almostFill(lean);
         }
-        for (int i = 0; i < CALLS && check.isClean(); i++) {
+        while (made + MOST_CALLS_OF_A_TURN <= CALLS && check.isClean()) {
             int part = random.nextInt(3) == 0 ? random.nextInt(4) : lean;
             switch (part) {
                 case 0 -> callOfDays(random.nextInt(9));
@@ -48,13 +52,48 @@ public final class RandomRunsTest {
                 default -> callOfSeason(random.nextInt(9));
             }
         }
+        check.yes("a run makes no more than 512 calls", made <= CALLS);
     }
 
-    private void same(String call, long got, long want) {
+    /** Measures or marks up to some few that are left, so that runs meet the last of them. */
+    private void almostFill(int lean) {
+        int left = random.nextInt(6);
+        if (lean == 1) {
+            for (int i = left; i < 200; i++) {
+                int strip = random.nextInt(8);
+                int bounce = random.nextInt(101);
+                alike("measure", number(x.measure(strip, i % 4, bounce)),
+                        y.measure(strip, i % 4, bounce));
+            }
+        }
+        if (lean == 3) {
+            for (int i = 0; i < 8; i++) {
+                callOfSeason(0);
+            }
+            for (int i = left; i < 100; i++) {
+                callOfMarks();
+            }
+        }
+    }
+
+    /** One answer. */
+    private void alike(String call, long got, long want) {
+        made++;
         check.due(call, got, want);
-        check.due("status() behind " + call, x.status(), y.status);
-        check.due("upper() behind " + call, x.upper(), y.upper);
-        check.due("lower() behind " + call, x.lower(), y.lower);
+    }
+
+    /** One answer, the status, and now and then the fraction. */
+    private void same(String call, long got, long want) {
+        alike(call, got, want);
+        alike("status() behind " + call, x.status(), y.status);
+        if (random.nextInt(8) == 0) {
+            sameFraction(call);
+        }
+    }
+
+    private void sameFraction(String call) {
+        alike("upper() behind " + call, x.upper(), y.upper);
+        alike("lower() behind " + call, x.lower(), y.lower);
     }
 
     private static long number(boolean answer) {
@@ -128,7 +167,7 @@ public final class RandomRunsTest {
     private void everyState() {
         for (int strip = 0; strip < 8; strip++) {
             for (int what = 0; what < 7; what++) {
-                same("told(" + strip + ", " + what + ")", x.told(strip, what), y.told(strip, what));
+                alike("told(" + strip + ", " + what + ")", x.told(strip, what), y.told(strip, what));
             }
         }
     }
@@ -162,6 +201,7 @@ public final class RandomRunsTest {
             default -> {
                 int day = random.nextInt(8) == 0 ? some(0, 999) : random.nextInt(4);
                 same("reads", number(x.reads(strip, day)), y.reads(strip, day));
+                sameFraction("reads");
             }
         }
     }
@@ -197,19 +237,22 @@ public final class RandomRunsTest {
         return text.toString();
     }
 
-    private void feedAndRead(String text) {
+    /** A text of more than 400 bytes does not get onto the tape as a whole. */
+    private void feedAndRead(String whole) {
+        String text = whole.substring(0, Math.min(whole.length(), LONGEST_TEXT));
         for (int start = 0; start < text.length(); start += 20) {
             int[] w = new int[5];
             for (int i = 0; i < 20; i++) {
                 int b = start + i < text.length() ? text.charAt(start + i) : ' ';
                 w[i / 4] |= b << (24 - i % 4 * 8);
             }
-            same("feed", x.feed(w[0], w[1], w[2], w[3], w[4]), y.feed(w));
+            alike("feed", x.feed(w[0], w[1], w[2], w[3], w[4]), y.feed(w));
         }
+        alike("status() behind feed", x.status(), y.status);
         int n = random.nextInt(9) == 0 ? some(0, 400) : Math.min(text.length(), 400);
         same("rules of [" + text + "]", x.rules(n), y.rules(n));
         for (int what = -1; what < 3; what++) {
-            same("fault(" + what + ") of [" + text + "]", x.fault(what), y.fault(what));
+            alike("fault(" + what + ") of [" + text + "]", x.fault(what), y.fault(what));
         }
     }
 
@@ -258,16 +301,23 @@ public final class RandomRunsTest {
                     same("given", x.given(match), y.given(match));
                 }
             }
-            case 6 -> {
-                int result = some(0, 2);
-                int mark = some(0, 10);
-                same("mark", number(x.mark(match, result, mark)), y.mark(match, result, mark));
-            }
+            case 6 -> callOfMarks();
             case 7 -> {
                 int result = some(0, 2);
                 same("part", number(x.part(result)), y.part(result));
+                sameFraction("part");
             }
-            default -> same("fair", number(x.fair(match)), y.fair(match));
+            default -> {
+                same("fair", number(x.fair(match)), y.fair(match));
+                sameFraction("fair");
+            }
         }
+    }
+
+    private void callOfMarks() {
+        int match = some(0, 7);
+        int result = some(0, 2);
+        int mark = some(0, 10);
+        same("mark", number(x.mark(match, result, mark)), y.mark(match, result, mark));
     }
 }

@@ -26,7 +26,6 @@ public final class RateEdgesTest {
         withoutWorksAndBalls();
         ratedByAnother();
         changesNothing();
-        todayAndSoManyAboveLast();
         EDGE.end();
     }
 
@@ -292,19 +291,5 @@ public final class RateEdgesTest {
         EDGE.same("rate(0)", Leads.both(Leads::square, x -> x.rate(0)), Leads::square, Probe.values());
         EDGE.same("when(2, 2, 60)", Leads.both(Leads::square, x -> x.when(2, 2, 60)), Leads::square,
                 Probe.values());
-    }
-
-    /** Behind more than 512 calls, where answers are free: the class keeps its word there too. */
-    private static void todayAndSoManyAboveLast() {
-        EDGE.of(P19, "6: today and so many are above 999");
-        for (int many : new int[] {1, 60}) {
-            Edge.Lead below = Leads.both(Leads::square, x -> Check.goTo(x, 998 - many));
-            Edge.Lead at = Leads.both(below, PitchSquare::step);
-            Edge.Lead above = Leads.both(at, PitchSquare::step);
-            EDGE.taken(below, "when of " + many + " up to 998", x -> x.when(2, 2, many), Edge.NONE);
-            EDGE.taken(at, "when of " + many + " up to 999", x -> x.when(2, 2, many), Edge.NONE);
-            EDGE.refused(above, "when of " + many + " up to 1000", x -> x.when(2, 2, many),
-                    Edge.NONE, 6);
-        }
     }
 }

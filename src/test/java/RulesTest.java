@@ -230,13 +230,6 @@ public final class RulesTest {
         CHECK.refused(x, "when many 0", x.when(0, 0, 0), 2);
         CHECK.refused(x, "when many 61", x.when(0, 0, 61), 2);
         CHECK.refused(x, "when on none", x.when(0, 0, 60), 5);
-        Check.goTo(x, 998);
-        CHECK.due("when of one from 998", x.when(0, 1, 1), 998);
-        CHECK.refused(x, "when of two from 998", x.when(0, 1, 2), 6);
-        CHECK.refused(x, "when of two from 998, on none", x.when(0, 0, 2), 6);
-        CHECK.refused(x, "when of one from 998, on none", x.when(0, 0, 1), 5);
-        x.step();
-        CHECK.refused(x, "when of one from 999", x.when(0, 1, 1), 6);
     }
 
     private static void whenFound() {
