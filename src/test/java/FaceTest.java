@@ -28,6 +28,7 @@ public final class FaceTest {
 
     public static void main(String[] args) throws IOException {
         publicFace();
+        privateNames();
         noOtherMembers();
         nestedClasses();
         wordsOfTheSource();
@@ -55,6 +56,26 @@ public final class FaceTest {
         CHECK.yes("methods are " + found, found.equals(want));
         CHECK.yes("the class is public and final",
                 PitchSquare.class.getModifiers() == (Modifier.PUBLIC | Modifier.FINAL));
+        CHECK.due("NONE", PitchSquare.NONE, -1);
+    }
+
+    private static TreeSet<String> faceNames() {
+        TreeSet<String> names = new TreeSet<>();
+        for (String method : FACE) {
+            names.add(method.replaceAll(".* ([a-z]+)\\(.*", "$1"));
+        }
+        return names;
+    }
+
+    private static void privateNames() {
+        TreeSet<String> faceNames = faceNames();
+        for (Method method : PitchSquare.class.getDeclaredMethods()) {
+            if (Modifier.isPrivate(method.getModifiers())) {
+                CHECK.no(method + " bears a name of the face",
+                        faceNames.contains(method.getName()));
+                CHECK.yes(method + " takes seven at most", method.getParameterCount() <= 7);
+            }
+        }
     }
 
     private static void noOtherMembers() {
@@ -71,10 +92,7 @@ public final class FaceTest {
     }
 
     private static void nestedClasses() {
-        TreeSet<String> faceNames = new TreeSet<>();
-        for (String method : FACE) {
-            faceNames.add(method.replaceAll(".* ([a-z]+)\\(.*", "$1"));
-        }
+        TreeSet<String> faceNames = faceNames();
         Class<?>[] inside = PitchSquare.class.getDeclaredClasses();
         CHECK.yes("at most some twelve classes", inside.length < 12);
         for (Class<?> each : inside) {
